@@ -473,25 +473,15 @@ public final class SwornPounds {
             return pounds;
         }
 
-        int weightOfAll(int set) {
-            int pounds = 0;
-            for (int p = 0; p < PERSONS; p++) {
-                if (holds(set & there, p)) {
-                    pounds += weight[p];
-                }
-            }
-            return pounds;
-        }
-
         /** Who is no more counts for nothing: a SIGHT may still name him. */
-        int swornOfAll(int set) {
-            int pounds = 0;
+        int sumOver(int set, int[] figures) {
+            int sum = 0;
             for (int p = 0; p < PERSONS; p++) {
                 if (holds(set & there, p)) {
-                    pounds += sworn[p];
+                    sum += figures[p];
                 }
             }
-            return pounds;
+            return sum;
         }
 
         // what comes over them
@@ -764,7 +754,7 @@ public final class SwornPounds {
         }
 
         private void sell() {
-            int as = after.swornOfAll(across) - after.swornOfAll(by);
+            int as = after.sumOver(across, after.sworn) - after.sumOver(by, after.sworn);
             int reason = reasonAgainst(as);
             if (reason != FINE) {
                 breakOff(reason);
@@ -952,7 +942,7 @@ public final class SwornPounds {
         /** By how much the first pan of each SIGHT would be heavier, if all weighed what they are SWORN to. */
         private void fillLeads(Town town) {
             for (int s = 0; s < town.sights; s++) {
-                leads[s] = town.swornOfAll(town.sightFirst[s]) - town.swornOfAll(town.sightSecond[s]);
+                leads[s] = town.sumOver(town.sightFirst[s], town.sworn) - town.sumOver(town.sightSecond[s], town.sworn);
             }
         }
 
@@ -1027,11 +1017,11 @@ public final class SwornPounds {
         private static final int STEPS = 200;
 
         long upper;
-        long lower = 1;
+        long lower;
 
         void setHeavier(Town town, int first, int second, int t, int k) {
             int seated = first | second;
-            int ahead = town.weightOfAll(first) - town.weightOfAll(second);
+            int ahead = town.sumOver(first, town.weight) - town.sumOver(second, town.weight);
             int sit = Integer.bitCount(seated);
             long ways = 0;
             int grown = 0;
@@ -1048,7 +1038,7 @@ public final class SwornPounds {
         }
 
         void setMean(Town town, int first, int second, int t, int k) {
-            int ahead = town.weightOfAll(first) - town.weightOfAll(second);
+            int ahead = town.sumOver(first, town.weight) - town.sumOver(second, town.weight);
             int more = Integer.bitCount(first) - Integer.bitCount(second);
             put(10L * ahead + (long) t * k * more, 10);
         }
@@ -1107,7 +1097,7 @@ public final class SwornPounds {
 
         private void sell(int person) {
             int across = 1 << person | then.partner(person);
-            int as = then.swornOfAll(across);
+            int as = then.sumOver(across, then.sworn);
             int goods = then.poundsOfAll(across);
             sold += as;
             pounds += goods;

@@ -67,6 +67,12 @@ final class AirsTest {
         d.due("23: two", x.forget(), 2);
         d.due("23: gone", x.told(5), 0);
         d.due("24: all fits again", x.airs(0), 55);
+        for (int n = 1; n <= 8; n++) {
+            x.seen(2, 1, 2);
+        }
+        x.forget();
+        x.seen(2, 4, 0);
+        d.due("24: an old sight counts no more", x.airs(0), 55);
     }
 
     private static void airs() {
@@ -208,6 +214,9 @@ final class AirsTest {
         dueChance(x, 3, 4, 3, 1, 1, 83, 10);
         dueChance(x, 4, 3, 3, 1, 1, -83, 10);
         dueChance(x, 3, 4, 5, 1, 1, 17, 2);
+        dueChance(x, 4, 3, 5, 1, 1, -17, 2);
+        dueChance(x, 3, 4, 4, 1, 1, 42, 5);
+        dueChance(x, 4, 3, 4, 1, 1, -42, 5);
         dueChance(x, 3, 4, 10, 50, 1, 58, 1);
         dueChance(x, 8, 1, 10, 50, 1, 390, 1);
         Due.sayAnew(x, "^D").done();

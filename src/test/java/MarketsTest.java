@@ -66,6 +66,10 @@ final class MarketsTest {
         judged(town(), "|AA;", 0, 2, -3);
         judged(town(), "AA|BC;", 0, 2, -3);
         judged(town(), "A|A;", 0, 2, -3);
+        judged(town(), "|AAA;", 0, 2, -3);
+        judged(town(), "AAA|BC;", 0, 2, -3);
+        // who sat in the last sale may sit in the next
+        judged(town(), "|A;|A;A|BC;", -6, -6, 3, 114, 115, -6);
         judged(town(), "|B;", 0, 3, -3);
         judged(town(), "A|C;", 0, 3, -3);
         judged(town(), "C|AB;", 0, 3, -3);
@@ -74,6 +78,8 @@ final class MarketsTest {
         SwornPounds x = town();
         x.marry(1, 2, false);
         judged(x, "C|B;", -6, -6, 1, 20, 25, -6);
+        x.person(4, 13, 13, 0);
+        judged(x, "E|A;", -6, -6, 1, 1, 1, -6);
         x.person(3, 14, 300, 0);
         judged(x, "A|D;", 0, 4, -3);
         // the first one is told
@@ -151,6 +157,8 @@ final class MarketsTest {
         d.due("10: day", x.behind(0, 2), 2);
         d.due("10: nothing is done", x.weighs(0), 14);
         d.due("10: nothing is done, the day", x.told(4), 0);
+        d.due("10: outside", x.behind(0, -1), -2);
+        d.due("10: outside", x.behind(0, 3), -2);
         for (int p : new int[] {-1, 3, 7, 8, MIN, MAX}) {
             d.due("10: no such person", x.behind(p, 0), -1);
             d.due("10: no such person comes first", x.behind(p, 9), -1);

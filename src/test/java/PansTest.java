@@ -91,6 +91,7 @@ final class PansTest {
         d.due("17: all", x.near(999, true), 959);
         d.due("17: weighed", x.near(999, false), 919);
         d.due("17: nobody sits", x.near(3, true), 3);
+        d.due("17: v 1", x.near(1, true), 1);
         d.due("17: nobody is there", new SwornPounds().near(7, true), 7);
         x.marry(0, 1, true);
         d.due("17: married", x.near(20, true), 20);
@@ -133,6 +134,9 @@ final class PansTest {
         for (int i : new int[] {5, 8, -2, MIN, MAX}) {
             d.due("19: none", x.assize(i), -6);
         }
+        x.person(0, 1, 56, 0);
+        d.due("19: the first person", x.assize(0), 0);
+        x.leave(0);
         Due.sayAnew(x, "^F").done();
         // 55 with a cold weighs 50
         d.due("19: a cold", x.assize(0), 2);
@@ -198,6 +202,11 @@ final class PansTest {
         d.due("21: one of a marriage", x.price(25, 1, 0), -3);
         d.due("21: the other of it", x.price(25, 6, 1), -3);
         duePrice(x, 25, 3, -6, -6);
+        x.person(3, 1, 1, 0);
+        duePrice(x, 1, 0, 1, 8);
+        x.person(3, 5, 9, 0);
+        // as C is, D is sold as no more than him
+        duePrice(x, 4, 4, -6, -6);
     }
 
     private static void refusedPrices() {
