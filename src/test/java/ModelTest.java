@@ -1,6 +1,7 @@
 /** Runs of calls, each answered by the class and by the model of it: all promises together. */
 final class ModelTest {
-    private static final int RUNS = 400, CALLS = 500;
+    /** The document promises 512 calls of an object; one step of a run takes 30 at the most. */
+    private static final int RUNS = 800, CALLS = 512, AT_ONCE = 30;
     private static final String[] ACTS = {".", ".", "*", "^", "|", "|", "by|"};
 
     private final Draws draws;
@@ -9,6 +10,7 @@ final class ModelTest {
     private final int crowd;
     private final SwornPounds x = new SwornPounds();
     private final Model m = new Model();
+    private int calls = 0;
 
     private ModelTest(int run, Due d) {
         this.run = run;
@@ -21,7 +23,7 @@ final class ModelTest {
         Due d = new Due();
         for (int run = 1; run <= RUNS; run++) {
             ModelTest test = new ModelTest(run, d);
-            for (int call = 0; call < CALLS; call++) {
+            for (int step = 0; step < CALLS && test.calls <= CALLS - AT_ONCE; step++) {
                 test.call(test.draws.below(36));
             }
         }
@@ -29,6 +31,7 @@ final class ModelTest {
     }
 
     private void due(String call, long got, long want) {
+        calls++;
         d.due("run " + run + ": " + call, got, want);
     }
 
@@ -37,7 +40,7 @@ final class ModelTest {
     }
 
     private int set() {
-        int there = x.told(1);
+        int there = m.told(1);
         return draws.below(12) == 0 ? draws.from(-1, 256) : draws.below(256) & there;
     }
 
@@ -96,7 +99,7 @@ final class ModelTest {
 
     private int anyThere() {
         int p = draws.below(8);
-        for (int i = 0; i < 8 && x.weighs(p) < 0; i++) {
+        for (int i = 0; i < 8 && m.weighs(p) < 0; i++) {
             p = (p + 1) % 8;
         }
         return p;
